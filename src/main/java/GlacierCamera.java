@@ -640,9 +640,6 @@ public final class GlacierCamera {
 
     /** The track of a feature, whose index is valid. */
     private Track trackOf(int feature) {
-        if (feature < 0 || feature >= MAX_FEATURES) {
-            return trial;
-        }
         Track track = tracks[feature];
         if (track.version != version) {
             track.trace(scene, currentOrientation(), found, feature, scene.settings[TOLERANCE]);
