@@ -47,6 +47,10 @@ public final class ImageTest {
         // Row 0 of the reference frame is not in the shifted one.
         x.setPixel(0, 4, 0, 9);
         Check.equal("outside one of them", x.changedPixels(0, 1, 1), 2);
+        GlacierCamera corners = Check.loaded("size 8 4;" + dots(1, 0, 0, 9, 7, 3, 9) + dots(2, 0, 0, 4, 7, 0, 9, 0, 3, 3));
+        Check.equal("in all four corners by 3", corners.changedPixels(0, 1, 3), 4);
+        Check.equal("in three of them by 4", corners.changedPixels(0, 1, 4), 3);
+        Check.equal("in two of them by 6", corners.changedPixels(0, 1, 6), 2);
         Check.equal("not oriented", x.changedPixels(0, 2, 1), -1);
         Check.equal("not oriented either", x.changedPixels(2, 1, 1), -1);
         Check.equal("difference 0", x.changedPixels(0, 1, 0), -2);
@@ -73,6 +77,10 @@ public final class ImageTest {
         Check.outOfBounds("frame -1", () -> x.snowLine(-1, 1));
         GlacierCamera even = Check.loaded("size 4 4;frame 0 9900 0099 9000 9999;");
         Check.equal("exactly half is not fewer than half", even.snowLine(0, 9), 2);
+        GlacierCamera odd = Check.loaded("size 5 4;frame 0 77700 07007 77777 77777;");
+        Check.equal("two of five are fewer than half", odd.snowLine(0, 7), 1);
+        GlacierCamera wide = Check.loaded("size 12 4;frame 0 777777000000 000000777777 777770000000 777777777777;");
+        Check.equal("six and five of twelve", wide.snowLine(0, 7), 2);
     }
 
     private static void strain() {

@@ -88,6 +88,18 @@ public final class LoadTest {
         Check.equal("largest size", Check.load(x, "size 12 10;"), 1);
         Check.equal("largest height", x.height(), 10);
         Check.equal("blanks alone", Check.load(x, " \n "), 0);
+        Check.equal("they replace all the same", x.height(), 8);
+        Check.load(x, "set window 2;stake 1 1;");
+        Check.load(x, "size");
+        Check.equal("no text at all", x.load(0), 0);
+        Check.equal("has no error", x.errorPosition(), -1);
+        Check.equal("and replaces all the same", x.stakeCount(), 0);
+        Check.load(x, "set window 2;set surge 1;");
+        Check.load(x, "set window 0;set surge 2;");
+        Check.load(x, "size 4 4;");
+        initialSettings(x);
+        Check.load(x, "size 4 4;");
+        initialSettings(x);
     }
 
     private static String frames(int count) {
@@ -132,6 +144,8 @@ public final class LoadTest {
         error("hello", -11, 0);
         error("sizes 4 4;", -11, 0);
         error("siz 4 4;", -11, 0);
+        error("xize 4 4;", -11, 0);
+        error("sizx 4 4;", -11, 0);
         error("12", -11, 0);
         error("Set gap 1;", -11, 0);
         error("set\tgap 1;", -11, 3);

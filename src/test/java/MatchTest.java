@@ -68,6 +68,9 @@ public final class MatchTest {
     private static void windowsAndCandidates() {
         GlacierCamera x = Check.loaded("size 4 4;" + Scenes.frame(4, 4, 1, 1, 1, 9) + Scenes.frame(4, 4, 2, 2, 2, 9));
         match("window inside", x, new int[] {0, 1, 1, 1}, 2, 2, 0, 18);
+        GlacierCamera skew = Check.loaded("size 8 6;" + dots(1, 3, 1, 9, 4, 2, 6, 2, 3, 3)
+            + dots(2, 4, 2, 9, 5, 3, 6, 3, 4, 3));
+        match("neither turned nor mirrored", skew, new int[] {0, 3, 2, 1}, 4, 3, 0, 12);
         match("window at the left edge", x, new int[] {0, 0, 1, 1}, -1, -1, -1, -1);
         match("window at the upper edge", x, new int[] {0, 1, 0, 1}, -1, -1, -1, -1);
         match("window at the right edge", x, new int[] {0, 3, 1, 1}, -1, -1, -1, -1);
@@ -77,6 +80,12 @@ public final class MatchTest {
         GlacierCamera y = Check.loaded("size 5 5;set window 2;" + Scenes.frame(5, 5, 1, 1, 1, 9)
             + Scenes.frame(5, 5, 2, 4, 4, 9));
         match("only one candidate", y, new int[] {0, 2, 2, 1}, 2, 2, 18, -1);
+        // Images of 4 rows: windows of radius 1 fit in columns 1 and 2 and in rows 1 and 2.
+        GlacierCamera two = Check.loaded("size 4 4;set range 1;control 2 2;" + Scenes.frame(4, 4, 1, 2, 2, 9)
+            + Scenes.frame(4, 4, 2, 2, 1, 9));
+        Check.equal("shift up", 10 * two.shiftX(1) + two.shiftY(1), -1);
+        match("two candidates, a match before", two, new int[] {0, 2, 2, 1}, 2, 1, 0, 18);
+        match("two candidates", two, new int[] {0, 1, 1, 1}, 1, 1, 18, 0);
     }
 
     private static void sameFrame() {

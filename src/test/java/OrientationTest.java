@@ -104,6 +104,16 @@ public final class OrientationTest {
         shift("against it", x, 1, 0, 0, 0);
         x.undo();
         shift("after undo", x, 2, 1, 0, 0);
+        x.setSetting(GlacierCamera.SHIFT, 0);
+        shift("after setSetting", x, 2, 0, 0, 18);
+        x.undo();
+        x.setSetting(GlacierCamera.WINDOW, 0);
+        shift("after another change instead", x, 2, 1, 0, 0);
+        x.undo();
+        Check.equal("first frame", x.isOriented(0), true);
+        x.setPixel(0, 3, 2, 1);
+        Check.equal("no longer usable", x.isOriented(0), false);
+        x.undo();
         x.setPixel(2, 4, 2, 0);
         x.setPixel(2, 2, 2, 9);
         shift("after setPixel", x, 2, -1, 0, 0);

@@ -85,6 +85,8 @@ public final class StakeTest {
         Check.equal("drillCount(2)", x.drillCount(2), 0);
         x.addReading(0, 40, 39);
         Check.equal("drilled twice", x.drillCount(0), 2);
+        GlacierCamera y = Check.loaded("stake 0 9 1 8 2 8 3 7;");
+        Check.equal("in the first and the last interval", y.drillCount(0), 2);
     }
 
     private static void totals() {
