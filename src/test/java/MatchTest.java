@@ -84,8 +84,12 @@ public final class MatchTest {
         GlacierCamera two = Check.loaded("size 4 4;set range 1;control 2 2;" + Scenes.frame(4, 4, 1, 2, 2, 9)
             + Scenes.frame(4, 4, 2, 2, 1, 9));
         Check.equal("shift up", 10 * two.shiftX(1) + two.shiftY(1), -1);
-        match("two candidates, a match before", two, new int[] {0, 2, 2, 1}, 2, 1, 0, 18);
-        match("two candidates", two, new int[] {0, 1, 1, 1}, 1, 1, 18, 0);
+        match("four candidates", two, new int[] {0, 2, 2, 1}, 2, 1, 0, 18);
+        match("two candidates alike", two, new int[] {0, 1, 1, 1}, 1, 1, 18, 0);
+        two.setPixel(1, 3, 0, 4);
+        match("two candidates, the better one first", two, new int[] {0, 1, 1, 1}, 1, 1, 18, 4);
+        two.setPixel(1, 3, 2, 9);
+        match("two candidates, the better one last", two, new int[] {0, 1, 1, 1}, 2, 1, 13, 5);
     }
 
     private static void sameFrame() {
