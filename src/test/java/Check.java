@@ -3,6 +3,8 @@ import java.nio.charset.StandardCharsets;
 /** What the tests share: feeding texts, comparing answers and ending with exit code 1 if one was wrong. */
 final class Check {
     private static int wrong = 0;
+    /** The case that is being run, for the messages. */
+    private static String place = "";
 
     private Check() {
     }
@@ -11,10 +13,14 @@ final class Check {
         Object answer();
     }
 
+    static void enter(String newPlace) {
+        place = newPlace + ": ";
+    }
+
     static void equal(String what, Object got, Object due) {
         if (!got.equals(due)) {
             wrong++;
-            System.out.println(what + " answered " + got + ", due is " + due);
+            System.out.println(place + what + " answered " + got + ", due is " + due);
         }
     }
 
