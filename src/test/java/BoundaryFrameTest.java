@@ -83,6 +83,19 @@ public final class BoundaryFrameTest {
         Check.outOfBounds("row 10", () -> x.pixel(0, 11, 10));
     }
 
+    @Says("Returns 0 to 9")
+    static void promise14_cornersOfANarrowAndHighImage() {
+        GlacierCamera x = Check.loaded("size 4 10;" + Scenes.frame(4, 10, 1, 3, 0, 2, 0, 9, 3, 3, 9, 4));
+        Check.equal("upper right", x.pixel(0, 3, 0), 2);
+        Check.equal("lower left", x.pixel(0, 0, 9), 3);
+        Check.equal("lower right", x.pixel(0, 3, 9), 4);
+        Check.outOfBounds("column 4", () -> x.pixel(0, 4, 0));
+        Check.outOfBounds("row 10", () -> x.pixel(0, 0, 10));
+        Check.equal("setPixel of column 4", x.setPixel(0, 4, 0, 1), false);
+        Check.equal("setPixel of row 10", x.setPixel(0, 0, 10, 1), false);
+        Check.equal("setPixel of the last one", x.setPixel(0, 3, 9, 1), true);
+    }
+
     @Says("Throws IndexOutOfBoundsException if frame is not a valid index, or x or y is not in the image")
     static void promise14_frameOneOutsideThrows() {
         Refusal.outOfBounds("pixel(3, 0, 0) of three", x -> x.pixel(3, 0, 0));
@@ -110,7 +123,7 @@ public final class BoundaryFrameTest {
 
     // Promise 15.
 
-    @Says({"Returns true if it was set", "a brightness of 0 to 9"})
+    @Says({"Returns true if it was set", "a brightness of 0 to 9", "0 to 9"})
     static void promise15_brightnessFrom0To9() {
         GlacierCamera x = three();
         for (int brightness = 0; brightness <= 9; brightness++) {
@@ -260,7 +273,7 @@ public final class BoundaryFrameTest {
 
     // Promise 18.
 
-    @Says("A frame is usable if its contrast is at least CONTRAST")
+    @Says({"A frame is usable if its contrast is at least CONTRAST", "Returns true if it is usable"})
     static void promise18_contrastEqualAndOneLess() {
         for (int contrast = 0; contrast <= 9; contrast++) {
             GlacierCamera x = uniform("0" + contrast + "000");

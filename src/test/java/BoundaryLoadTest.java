@@ -46,7 +46,8 @@ public final class BoundaryLoadTest {
         Check.outOfBounds("stake 0", () -> x.readingCount(0));
     }
 
-    @Says({"with initial settings", "(4 to 12 pixels, initially 12) and height (4 to 10 pixels, initially 8)"})
+    @Says({"with initial settings", "SETTINGS, with their ranges and initial values",
+        "(4 to 12 pixels, initially 12) and height (4 to 10 pixels, initially 8)"})
     static void promise01_newObjectHasInitialSettingsAndSize() {
         initialSettings(new GlacierCamera());
         initialSize(new GlacierCamera());
@@ -137,7 +138,7 @@ public final class BoundaryLoadTest {
         Check.equal("load of all", x.load(1400), 0);
     }
 
-    @Says("the four bytes of each parameter, most significant byte first")
+    @Says({"the four bytes of each parameter, most significant byte first", "first four bytes", "last four bytes"})
     static void promise02_eachByteAtItsPlace() {
         GlacierCamera x = new GlacierCamera();
         int[] words = {0x20202020, 0x20202020, 0x20202020, 0x20202020, 0x20202020};
@@ -240,6 +241,43 @@ public final class BoundaryLoadTest {
         Check.equal("next with one of each", Check.load(x, "stake 5 5;control 1 1;feature 1 1;"), 3);
         Check.equal("readings", x.readingCount(0), 1);
         initialSettings(x);
+    }
+
+    @Says("What the text does not give has its initial value")
+    static void promise03_settingsThatEarlierTextsGave() {
+        StringBuilder all = new StringBuilder();
+        String[] names = {"window", "range", "shift", "contrast", "tolerance", "scale", "gap", "surge"};
+        for (int i = 0; i < 8; i++) {
+            all.append("set ").append(names[i]).append(' ').append(GREATEST[i]).append(';');
+        }
+        GlacierCamera x = new GlacierCamera();
+        for (int i = 0; i < 3; i++) {
+            Check.equal("all settings", Check.load(x, all.toString()), 8);
+            Check.equal("none", Check.load(x, " "), 0);
+            initialSettings(x);
+            Check.equal("all settings, with an error", Check.load(x, all + "?"), SYNTAX);
+            initialSettings(x);
+            Check.equal("none", Check.load(x, "size 4 4;"), 1);
+            initialSettings(x);
+        }
+    }
+
+    @Says("Replaces everything by what the first length bytes")
+    static void promise03_loadAfterQuestions() {
+        GlacierCamera x = new GlacierCamera();
+        Check.equal("fastest of none", x.fastestFeature(), NOT_FOUND);
+        Check.equal("reference frame of none", x.referenceFrame(), NOT_FOUND);
+        String start = "size 4 4;set window 0;control 1 1;feature 1 1;";
+        Check.load(x, start + "frame 1 0000 0900 0000 0000;frame 2 0000 0090 0000 0000;");
+        Check.equal("first text: shiftX", x.shiftX(1), 1);
+        Check.equal("first text: trackX", x.trackX(0, 1), 2);
+        Check.load(x, start + "frame 1 0000 0900 0000 0000;frame 2 0900 0000 0000 0000;");
+        Check.equal("second text: shiftX", x.shiftX(1), 0);
+        Check.equal("second text: shiftY", x.shiftY(1), -1);
+        Check.equal("second text: trackX", x.trackX(0, 1), 1);
+        Check.load(x, start + "frame 1 0000 0000 0000 0000;frame 2 0900 0000 0000 0000;");
+        Check.equal("third text: isOriented", x.isOriented(0), false);
+        Check.equal("third text: trackX", x.trackX(0, 0), NOT_FOUND);
     }
 
     @Says("Replaces everything by what the first length bytes")

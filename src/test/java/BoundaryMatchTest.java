@@ -29,7 +29,7 @@ public final class BoundaryMatchTest {
         Check.equal(what + ": matchMargin", camera.matchMargin(from, x, y, to), NOT_FOUND);
     }
 
-    /** The camera shifts by (sx, sy), which a dot at (4, 4) shows; 8 x 6 pixels, windows of a single pixel, RANGE 1. */
+    /** The camera shifts by (sx, sy), which a dot at (4, 3) shows; 8 x 6 pixels, windows of a single pixel, RANGE 1. */
     private static GlacierCamera shifted(int sx, int sy) {
         GlacierCamera x = Check.loaded("size 8 6;set window 0;set range 1;set shift 3;control 4 3;"
             + Scenes.frame(8, 6, 1, 4, 3, 9) + Scenes.frame(8, 6, 2, 4 + sx, 3 + sy, 9));
@@ -80,6 +80,25 @@ public final class BoundaryMatchTest {
         }
         GlacierCamera wide = Check.loaded("size 12 4;set window 2;" + Scenes.frame(12, 4, 1, 1, 1, 9));
         none("radius 2 in 12 x 4", wide, 0, 5, 2, 0);
+    }
+
+    @Says("It is inside if all these pixels are in the image")
+    static void promise25_windowInANarrowAndHighImage() {
+        for (int radius = 0; radius <= 1; radius++) {
+            GlacierCamera camera = Check.loaded("size 4 10;set range 1;set window " + radius + ";"
+                + Scenes.frame(4, 10, 1, 1, 8, 9, 2, 1, 9) + Scenes.frame(4, 10, 2, 2, 7, 9, 1, 2, 9));
+            for (int y = 0; y < 10; y++) {
+                for (int x = 0; x < 4; x++) {
+                    boolean inside = x >= radius && x <= 3 - radius && y >= radius && y <= 9 - radius;
+                    Check.equal("radius " + radius + " at " + x + " " + y, camera.match(0, x, y, 0), inside ? 16 * x + y : NOT_FOUND);
+                }
+            }
+            Check.equal("down: match", camera.match(0, 2, 1, 1), 16 + 2);
+            Check.equal("down: mismatch", camera.matchError(0, 2, 1, 1), 0);
+            Check.equal("up: match", camera.match(0, 1, 8, 1), 16 * 2 + 7);
+            Check.equal("up: mismatch", camera.matchError(0, 1, 8, 1), 0);
+            Check.equal("margin", camera.matchMargin(0, 1, 8, 1), radius == 0 ? 9 : 18);
+        }
     }
 
     // Candidates.
@@ -159,9 +178,24 @@ public final class BoundaryMatchTest {
         GlacierCamera x = loaded("set window 0;" + dots(1, 5, 4, 9));
         Check.equal("dot", x.match(0, 5, 4, 0), 16 * 5 + 4);
         Check.equal("dark pixel", x.match(0, 6, 4, 0), 16 * 6 + 4);
-        Check.equal("its mismatch", x.matchError(0, 5, 4, 0), 0);
-        Check.equal("its margin", x.matchMargin(0, 5, 4, 0), 9);
-        Check.equal("margin of the dark pixel", x.matchMargin(0, 6, 4, 0), 0);
+        Check.equal("a frame that is not the reference frame", shifted(2, 1).match(1, 7, 5, 1), 16 * 7 + 5);
+    }
+
+    @Says("index of another frame, or the same one")
+    static void promise25_mismatchInTheSameFrame() {
+        GlacierCamera x = loaded(dots(1, 5, 4, 9) + dots(2, 6, 4, 3));
+        Check.equal("dot", x.matchError(0, 5, 4, 0), 0);
+        Check.equal("dot of the other frame", x.matchError(1, 6, 4, 1), 0);
+        Check.equal("another frame", x.matchError(0, 5, 4, 1), 6);
+    }
+
+    @Says("index of another frame, or the same one")
+    static void promise26_marginInTheSameFrame() {
+        GlacierCamera x = loaded("set window 0;" + dots(1, 5, 4, 9) + dots(2, 6, 4, 3));
+        Check.equal("dot", x.matchMargin(0, 5, 4, 0), 9);
+        Check.equal("dark pixel", x.matchMargin(0, 6, 4, 0), 0);
+        Check.equal("dot of the other frame", x.matchMargin(1, 6, 4, 1), 3);
+        Check.equal("another frame", x.matchMargin(0, 5, 4, 1), 3);
     }
 
     @Says("Returns 16 times the column plus the row of the match")

@@ -249,7 +249,7 @@ public final class BoundaryOrientationTest {
         shift("a window that fits nowhere", small, 1, 0, 0, 0);
     }
 
-    @Says("A frame is oriented if it is the reference frame, or if it is usable and a shift counts")
+    @Says({"A frame is oriented if it is the reference frame, or if it is usable and a shift counts", "Returns true if it is oriented"})
     static void promise20_frameWithContrastEqualAndOneLess() {
         GlacierCamera x = moved("set contrast 5;control 4 3;", 4, 3, 4, 3);
         x.setPixel(1, 4, 3, 5);
@@ -268,6 +268,29 @@ public final class BoundaryOrientationTest {
         x.setSetting(GlacierCamera.CONTRAST, 1);
         shift("first, usable", x, 0, 0, 0, 0);
         shift("second, usable", x, 1, 0, 0, 0);
+    }
+
+    @Says("A frame is oriented if it is the reference frame, or if it is usable and a shift counts")
+    static void promise20_framesThatAreUsableNoLonger() {
+        int[][] contrasts = {{3, 4, 5, 6, 7, 8}, {8, 7, 6, 5, 4, 3}, {4, 8, 5, 7, 6, 3}};
+        for (int[] own : contrasts) {
+            StringBuilder text = new StringBuilder("size 9 8;");
+            for (int i = 0; i < 6; i++) {
+                text.append(dots(i, 4, 3, own[i]));
+            }
+            GlacierCamera x = Check.loaded(text.toString());
+            for (int contrast = 0; contrast <= 9; contrast++) {
+                x.setSetting(GlacierCamera.CONTRAST, contrast);
+                for (int frame = 0; frame < 6; frame++) {
+                    Check.equal("frame " + frame + " at CONTRAST " + contrast, x.isOriented(frame), own[frame] >= contrast);
+                }
+            }
+            x.removeFrame(0);
+            x.setSetting(GlacierCamera.CONTRAST, 6);
+            for (int frame = 0; frame < 5; frame++) {
+                Check.equal("frame " + frame + " without the first one", x.isOriented(frame), own[frame + 1] >= 6);
+            }
+        }
     }
 
     @Says("A frame is oriented if it is the reference frame, or if it is usable and a shift counts")

@@ -171,24 +171,28 @@ public final class BoundaryTextTest {
     }
 
     @Says("SYNTAX_ERROR: the token is not allowed here")
-    static void promise03_statementNamesWithALetterLessOrMore() {
+    static void promise03_statementNamesWithALetterLessOrMoreOrChanged() {
         for (String name : new String[] {"size", "frame", "control", "feature", "stake", "set"}) {
             error("^" + name.substring(0, name.length() - 1) + " 4 4;", SYNTAX);
             error("^" + name.substring(1) + " 4 4;", SYNTAX);
             error("^" + name + "s 4 4;", SYNTAX);
             error("^a" + name + " 4 4;", SYNTAX);
-            error("^" + name.substring(0, name.length() - 1) + "z 4 4;", SYNTAX);
+            for (int i = 0; i < name.length(); i++) {
+                error("^" + name.substring(0, i) + "q" + name.substring(i + 1) + " 4 4;", SYNTAX);
+            }
         }
     }
 
     @Says("SYNTAX_ERROR: the token is not allowed here")
-    static void promise03_settingNamesWithALetterLessOrMore() {
+    static void promise03_settingNamesWithALetterLessOrMoreOrChanged() {
         for (String name : SETTINGS) {
             fine("set " + name + " 1;", 1);
             error("set ^" + name.substring(0, name.length() - 1) + " 1;", SYNTAX);
             error("set ^" + name.substring(1) + " 1;", SYNTAX);
             error("set ^" + name + "s 1;", SYNTAX);
-            error("set ^" + name.substring(0, name.length() - 1) + "z 1;", SYNTAX);
+            for (int i = 0; i < name.length(); i++) {
+                error("set ^" + name.substring(0, i) + "q" + name.substring(i + 1) + " 1;", SYNTAX);
+            }
         }
     }
 
@@ -431,6 +435,9 @@ public final class BoundaryTextTest {
             fine("size 12 10;" + name + " 11 9;", 2);
             error("size 12 10;" + name + " ^12 9;", RANGE);
             error("size 12 10;" + name + " 11 ^10;", RANGE);
+            fine("size 4 10;" + name + " 3 9;", 2);
+            error("size 4 10;" + name + " ^4 9;", RANGE);
+            error("size 4 10;" + name + " 3 ^10;", RANGE);
         }
     }
 
@@ -462,11 +469,14 @@ public final class BoundaryTextTest {
 
     @Says("DUPLICATE_ERROR: the name of a setting that was already given")
     static void promise03_settingOfAnEarlierTextMayBeGivenAgain() {
-        GlacierCamera x = fine("set gap 5;", 1);
-        Check.equal("after a text", Check.load(x, "set gap 6;"), 1);
-        Check.equal("failed", Check.load(x, "set gap 7;x"), SYNTAX);
-        Check.equal("after a text with an error", Check.load(x, "set gap 8;"), 1);
-        Check.equal("gap", x.getSetting(GlacierCamera.GAP), 8);
+        for (int i = 0; i < SETTINGS.length; i++) {
+            String statement = "set " + SETTINGS[i] + " ";
+            GlacierCamera x = fine(statement + GREATEST[i] + ";", 1);
+            Check.equal("after a text", Check.load(x, statement + "1;"), 1);
+            Check.equal("failed", Check.load(x, statement + "2;x"), SYNTAX);
+            Check.equal("after a text with an error", Check.load(x, statement + "2;"), 1);
+            Check.equal("value", x.getSetting(i), 2);
+        }
     }
 
     // Order.

@@ -15,6 +15,11 @@ public final class ModelTest {
     private static final List<String> CHANGES = List.of("setSetting", "setPixel", "removeFrame", "moveFeature",
         "addReading", "removeReading", "undo");
 
+    /** The document promises nothing about later calls of an object. */
+    private static final int CALLS = 512;
+    /** The most calls that it takes to load a text. */
+    private static final int CALLS_OF_A_TEXT = 73;
+
     private static final Map<String, String> KINDS = kinds();
 
     private final Random random;
@@ -23,6 +28,7 @@ public final class ModelTest {
     private final StringBuilder calls = new StringBuilder();
     private final Map<String, Integer> answered;
     private int lastDay = 30;
+    private int made = 0;
 
     private ModelTest(long seed, Map<String, Integer> answered) {
         random = new Random(seed);
@@ -67,8 +73,8 @@ public final class ModelTest {
         List<Method> changes = new ArrayList<>(methods);
         changes.removeIf(m -> !CHANGES.contains(m.getName()));
         boolean equal = loadText(text());
-        for (int i = 0; i < 300 && equal; i++) {
-            if (random.nextInt(60) == 0) {
+        while (made < CALLS && equal) {
+            if (random.nextInt(60) == 0 && made + CALLS_OF_A_TEXT <= CALLS) {
                 equal = loadText(random.nextInt(3) == 0 ? text() : damaged(text()));
             } else {
                 List<Method> some = random.nextInt(6) == 0 ? changes : methods;
@@ -100,15 +106,15 @@ public final class ModelTest {
         char kind = KINDS.getOrDefault(name, "").charAt(index);
         switch (kind) {
             case 'f':
-                return within(camera.frameCount());
+                return within(model.frameCount());
             case 'F':
-                return within(camera.featureCount());
+                return within(model.featureCount());
             case 's':
-                return within(camera.stakeCount());
+                return within(model.stakeCount());
             case 'x':
-                return within(camera.width());
+                return within(model.width());
             case 'y':
-                return within(camera.height());
+                return within(model.height());
             case 'i':
                 return random.nextInt(3) - random.nextInt(2) * random.nextInt(2);
             case 'S':
@@ -132,6 +138,7 @@ public final class ModelTest {
     }
 
     private boolean call(String name, Object... arguments) {
+        made++;
         Object got = answer(camera, name, arguments);
         Object due = answer(model, name, arguments);
         calls.append(name).append(Arrays.toString(arguments)).append(" -> ").append(got).append('\n');
